@@ -58,10 +58,10 @@ public final class PeaTube {
     private static final int STICKS = 2;
     private static final int DROPS = 3;
 
-    /** All WORDS that no NAME may be, each in WORD_WIDE signs; the numbers below tell which. */
-    private static final String WORDS = "tube    bore    far     wind    left    ring    worth   pea     size    weight  crooked wet     shooter puff    shake   lean    low     load    aim     beat    shoot   wipe    next    when    score   holes   spit    loop    end     stop    ";
-    private static final int WORD_WIDE = 8;
+    /** All WORDS that no NAME may be, a blank behind each; the numbers below are their places here. */
+    private static final String WORDS = "tube bore far wind left ring worth pea size weight crooked wet shooter puff shake lean low load aim beat shoot wipe next when score holes spit loop end stop ";
     private static final int MOST_WORDS = 30;
+    private static final int MOST_LETTERS = 8;
     private static final int TUBE = 0;
     private static final int BORE = 1;
     private static final int FAR = 2;
@@ -1026,14 +1026,33 @@ public final class PeaTube {
         int fault = NONE;
         int place = NONE;
         int kind;
+        /** Which of the WORDS that no NAME may be the TOKEN is, or NONE. */
         int word;
+        /** A WORD's letters as digits by 32; 0 if it has too many of them to be a NAME. */
         long name;
         int number;
         int sign;
+        /** The NUMBER, or the sign that COMPARES, taken latest. */
         int taken;
         private int length;
         private int at;
         private int start;
+        /** The WORDS that no NAME may be, each as name is. */
+        private final long[] names = new long[MOST_WORDS];
+
+        Tape() {
+            long letters = 0L;
+            int which = 0;
+            for (int i = 0; i < WORDS.length() && which < MOST_WORDS; i++) {
+                if (isLetter(WORDS.charAt(i))) {
+                    letters = withLetter(letters, WORDS.charAt(i));
+                } else {
+                    names[which] = letters;
+                    which++;
+                    letters = 0L;
+                }
+            }
+        }
 
         void append(int four) {
             for (int shift = 24; shift >= 0 && many < MOST_BYTES; shift -= 8) {
@@ -1081,16 +1100,23 @@ public final class PeaTube {
             }
         }
 
-        /** The name is the letters as digits by 32, or 0 for a WORD that is too long to be one. */
         private void scanWord() {
             long letters = 0L;
             while (at < length && isLetter(bytes[at])) {
-                letters = letters * 32L + (bytes[at] - 'a' + 1);
+                letters = withLetter(letters, bytes[at]);
                 at++;
             }
             kind = AT_WORD;
-            word = findWord();
-            name = at - start > WORD_WIDE ? 0L : letters;
+            name = at - start > MOST_LETTERS ? 0L : letters;
+            for (int i = 0; i < MOST_WORDS; i++) {
+                if (names[i] == name) {
+                    word = i;
+                }
+            }
+        }
+
+        private static long withLetter(long letters, int letter) {
+            return letters * 32L + (letter - 'a' + 1);
         }
 
         private void scanNumber() {
@@ -1101,30 +1127,6 @@ public final class PeaTube {
             }
             kind = at - start > 4 ? AT_NOTHING : AT_NUMBER;
             number = value;
-        }
-
-        private int findWord() {
-            for (int i = 0; i < MOST_WORDS; i++) {
-                if (isWordThere(i * WORD_WIDE)) {
-                    return i;
-                }
-            }
-            return NONE;
-        }
-
-        /** Whether the TOKEN is the one of the WORDS that begins there; each has a blank behind it. */
-        private boolean isWordThere(int from) {
-            int letters = at - start;
-            int behind = from + letters;
-            if (letters >= WORD_WIDE || from < 0 || behind >= WORDS.length() || WORDS.charAt(behind) != ' ') {
-                return false;
-            }
-            for (int i = 0; i < letters; i++) {
-                if (WORDS.charAt(from + i) != bytes[start + i]) {
-                    return false;
-                }
-            }
-            return true;
         }
 
         boolean atName() {
@@ -1512,15 +1514,17 @@ public final class PeaTube {
         boolean parse(Tape tape, Tent tent) {
             clear();
             for (int i = 0; i < MOST_ROUND_BYTES && tape.kind != Tape.AT_END; i++) {
-                boolean fine = tape.word == END ? parseEnd(tape) : parseStep(tape, tent);
-                if (!fine) {
+                int step = tape.word;
+                int place = ops;
+                boolean fine = step == END ? ends(tape) : begins(tape, step) && parseRest(tape, tent, step, place);
+                if (!fine || !tape.takeSemicolon()) {
                     return false;
                 }
             }
             return depth == 0 || tape.refuseHere(FAULT_STANDS_WRONG);
         }
 
-        private boolean parseEnd(Tape tape) {
+        private boolean ends(Tape tape) {
             if (depth <= 0 || ops >= MOST_OPS) {
                 return tape.refuseHere(FAULT_STANDS_WRONG);
             }
@@ -1531,11 +1535,10 @@ public final class PeaTube {
             mate[begin] = ops;
             ops++;
             tape.advance();
-            return tape.takeSemicolon();
+            return true;
         }
 
-        private boolean parseStep(Tape tape, Tent tent) {
-            int step = tape.word;
+        private boolean begins(Tape tape, int step) {
             if (!isStep(step)) {
                 return tape.refuseHere(FAULT_STANDS_WRONG);
             }
@@ -1549,12 +1552,11 @@ public final class PeaTube {
                 open[depth] = ops;
                 depth++;
             }
-            int place = ops;
-            op[place] = step;
+            op[ops] = step;
             steps++;
             ops++;
             tape.advance();
-            return parseRest(tape, tent, step, place) && tape.takeSemicolon();
+            return true;
         }
 
         private static boolean isStep(int word) {
