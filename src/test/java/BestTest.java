@@ -111,6 +111,58 @@ public final class BestTest {
         Check.no(y, "no peas", y.bestPea(0, 9, 0), 8);
     }
 
+    /** The greatest shake there is, with and without a turn: the aims around the middle by counting alone. */
+    private static void bestAimOfTheShakiest() {
+        PeaTube x = Check.withTent("tube 48 bore 3; far 4; ring 3 worth 1; ring 1 worth 20; pea p size 3 weight 1;"
+            + "pea crook size 3 weight 20 crooked 4; shooter s puff 40 shake 6 lean 2 1;");
+        for (int pea = 0; pea < 2; pea++) {
+            int bestX = 0;
+            int bestY = 0;
+            int most = -1;
+            int drop = x.flight(pea, 40, 0, 1);
+            int off = x.flight(pea, 40, 0, 3);
+            for (int aimX = -20; aimX <= 20; aimX++) {
+                for (int aimY = -20; aimY <= 20; aimY++) {
+                    int sum = 0;
+                    for (int i = 0; i < 169; i++) {
+                        int y = aimY + 1 - drop + i % 13 - 6;
+                        int at = aimX + 2 + i / 13 - 6;
+                        sum += worth(at - off, y) + worth(at + off, y);
+                    }
+                    if (sum > most) {
+                        most = sum;
+                        bestX = aimX;
+                        bestY = aimY;
+                    }
+                }
+            }
+            int common = java.math.BigInteger.valueOf(most).gcd(java.math.BigInteger.valueOf(338)).intValue();
+            Check.yes(x, "best aim's x of pea " + pea, x.bestAim(0, pea, 40, 0, 0), bestX);
+            Check.fraction(x, "best aim of pea " + pea, most / common, 338 / common);
+            Check.yes(x, "best aim's y of pea " + pea, x.bestAim(0, pea, 40, 0, 1), bestY);
+            Check.due("pea " + pea + " is crooked", off > 0, pea == 1);
+        }
+    }
+
+    private static int worth(int x, int y) {
+        int square = x * x + y * y;
+        return square <= 1 ? 20 : square <= 9 ? 1 : 0;
+    }
+
+    private static void turnsOfTheMostPoints() {
+        PeaTube x = Check.withTent("tube 48 bore 3; far 4; ring 1 worth 20; pea p size 3 weight 1;"
+            + "shooter calm puff 40 shake 0; shooter shaky puff 40 shake 1;");
+        // shaky has 20 by 5 in 9
+        Check.yes(x, "turns", x.turns(0, 0, 1, 0, 5, 1));
+        Check.fraction(x, "as many: 100 each", 3125, 59049);
+        Check.yes(x, "turns", x.turns(0, 0, 1, 0, 5, 0));
+        Check.fraction(x, "more: 100 against less", 59049 - 3125, 59049);
+        Check.yes(x, "turns", x.turns(0, 0, 1, 0, 5, 2));
+        Check.fraction(x, "less", 0, 1);
+        Check.yes(x, "turns", x.turns(1, 0, 0, 0, 5, 2));
+        Check.fraction(x, "the second has more", 59049 - 3125, 59049);
+    }
+
     private static void seriesAndWipes() {
         PeaTube x = Check.withTent(STRAIGHT);
         x.shoot(1, 2, 40, 0, 0, 0, 0, 0);
@@ -230,6 +282,8 @@ public final class BestTest {
     public static void main(String[] args) {
         oddsAndMeans();
         best();
+        bestAimOfTheShakiest();
+        turnsOfTheMostPoints();
         seriesAndWipes();
         wipes();
         turns();
