@@ -1443,14 +1443,14 @@ public final class PeaTube {
         }
 
         int shakeOn(int shooter, int beat) {
-            int far = shake[shooter];
+            int most = shake[shooter];
             switch (beat) {
                 case 0:
-                    return far;
+                    return most;
                 case 1:
-                    return (far + 1) / 2;
+                    return (most + 1) / 2;
                 case 2:
-                    return Math.min(far, 1);
+                    return Math.min(most, 1);
                 default:
                     return 0;
             }
