@@ -102,6 +102,14 @@ final class Check {
         due("fault(1) of " + text, x.fault(1), place);
     }
 
+    static int asked() {
+        return asked;
+    }
+
+    static int wrong() {
+        return wrong;
+    }
+
     static void end() {
         System.out.println(wrong == 0 ? "all " + asked + " answers are as due"
             : wrong + " of " + asked + " answers are not as due");
