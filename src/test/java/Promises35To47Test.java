@@ -275,6 +275,14 @@ public final class Promises35To47Test {
         x.shoot(1, 0, 40, 2, 0, 0, 0, 0);
         Check.yes(x, "wins", x.wins(1, 0, 20));
         Check.fraction(x, "3 ahead and 7", 1, 1);
+        strike(x, 0, 0, 0, 0);
+        x.wipe();
+        Check.yes(x, "wins", x.wins(1, 0, 1));
+        Check.fraction(x, "10 against the first one's 7", 1, 1);
+        strike(x, 0, 0, 1, 1);
+        x.wipe();
+        Check.yes(x, "wins", x.wins(1, 0, 1));
+        Check.fraction(x, "10 against the first one's 10", 0, 1);
         Check.tent(x, "shooter a puff 1 shake 0;");
         Check.round(x, "");
         Check.yes(x, "wins", x.wins(0, 0, 1));

@@ -104,6 +104,42 @@ public final class TermsBestTest {
         bestAim("tube 48 bore 3; far 4; pea p size 3 weight 1; shooter s puff 40 shake 0 lean 9 9; ring 12 worth 5; ring 1 worth 6;", -10, -9, 6);
     }
 
+    @Sentence(in = BEST, says = "with the greatest MEAN")
+    private static void bestAimHasTheGreatestMeanOfAll() {
+        // shaking and turning; the second one's best is at the edge, so that what the first search left would show
+        String[] tents = {"wind 3; ring 25 worth 1; ring 9 worth 4; ring 4 worth 20; pea p size 3 weight 14 crooked 2; shooter s puff 40 shake 6 lean 2 1;",
+            "wind 5; ring 9 worth 4; ring 4 worth 20; pea p size 3 weight 14; shooter s puff 40 shake 5;",
+            "ring 60 worth 1; ring 20 worth 2; pea p size 3 weight 20 crooked 4; shooter s puff 40 shake 3;",
+            "ring 60 worth 1; ring 20 worth 2; pea p size 3 weight 14; shooter s puff 40 shake 3 lean 0 9;"};
+        for (String tent : tents) {
+            String whole = "tube 48 bore 3; far 20;" + tent;
+            int bestX = 0;
+            int bestY = 0;
+            long top = -1;
+            long bottom = 1;
+            for (int aimX = -20; aimX <= 20; aimX++) {
+                PeaTube x = Check.withTent(whole);
+                for (int aimY = -20; aimY <= 20; aimY++) {
+                    x.mean(0, 0, 40, 0, aimX, aimY);
+                    if (x.top() * bottom > top * x.bottom()) {
+                        top = x.top();
+                        bottom = x.bottom();
+                        bestX = aimX;
+                        bestY = aimY;
+                    }
+                }
+            }
+            PeaTube x = Check.withTent(whole);
+            for (int i = 0; i < 2; i++) {
+                Check.yes(x, "best aim's x of " + tent, x.bestAim(0, 0, 40, 0, 0), bestX);
+                Check.fraction(x, "best aim of " + tent, top, bottom);
+                Check.yes(x, "best aim's y of " + tent, x.bestAim(0, 0, 40, 0, 1), bestY);
+                Check.fraction(x, "best aim of " + tent, top, bottom);
+            }
+            Check.due("some mean is above 0", top > 0, true);
+        }
+    }
+
     @Sentence(in = BEST, says = "of several the least x, then the least y")
     private static void bestAimOfSeveral() {
         String shot = "tube 48 bore 3; far 4; pea p size 3 weight 1; shooter s puff 40 shake 0; ";
@@ -219,6 +255,15 @@ public final class TermsBestTest {
         }
         Check.yes(x, "turns", x.turns(1, 0, 1, 0, 5, 1));
         Check.fraction(x, "always as many", 1, 1);
+        // the most there can be: 100 POINTS; 20 by five in nine
+        PeaTube y = Check.withTent("tube 48 bore 3; far 4; ring 1 worth 20; pea p size 3 weight 1; shooter still puff 40 shake 0; shooter shaky puff 40 shake 1;");
+        long[] most = {59049 - 3125, 3125, 0};
+        for (int what = 0; what < 3; what++) {
+            Check.yes(y, "turns", y.turns(0, 0, 1, 0, 5, what));
+            Check.due("turns of 100 points, " + what, y.top() * 59049, most[what] * y.bottom());
+            Check.yes(y, "turns", y.turns(1, 0, 0, 0, 5, 2 - what));
+            Check.due("turns against 100 points, " + what, y.top() * 59049, most[what] * y.bottom());
+        }
         Check.yes(x, "turns", x.turns(1, 1, 2, 0, 5, 1));
         Check.fraction(x, "both have none", 1, 1);
         Check.yes(x, "turns", x.turns(1, 1, 2, 0, 5, 0));
@@ -336,6 +381,16 @@ public final class TermsBestTest {
         Check.yes(x, "nearer to the first", x.whose(1, -99), 0);
         Check.yes(x, "far above the second", x.whose(-10, 90), 1);
         Check.yes(x, "at the second", x.whose(-10, 0), 1);
+        PeaTube y = Check.withTent(STRAIGHT);
+        strike(y, 1, 0, 3, -30);
+        strike(y, 0, 0, 3, 30);
+        strike(y, 0, 0, 5, 34);
+        // the means are (4, 32) and (3, -30)
+        Check.yes(y, "below", y.whose(3, -9), 1);
+        Check.yes(y, "above", y.whose(3, 9), 0);
+        Check.yes(y, "at (3, 1) 962 and 961", y.whose(3, 1), 1);
+        Check.yes(y, "at (3, 2) 901 and 1024", y.whose(3, 2), 0);
+        Check.yes(y, "on the left", y.whose(-99, -9), 1);
     }
 
     @Sentence(in = BEST, says = "WORST: of SHOOTERS (what 0), PEAS (1) with HOLES that with the greatest SPREAD, of several the first.")
@@ -392,7 +447,7 @@ public final class TermsBestTest {
         Check.yes(x, "others", x.same(), 6);
         strike(x, 0, 0, -4, 4);
         Check.yes(x, "a second place", x.same(), 7);
-        while (x.many(8) < 60) {
+        for (int holes = 7; holes < 60; holes++) {
             strike(x, 0, 0, 4, -4);
         }
         Check.yes(x, "57 and 2 of 60", x.same(), 57 * 56 / 2 + 1);

@@ -1,3 +1,6 @@
+import java.util.ArrayList;
+import java.util.List;
+
 /** The edges that the Terms behind "==== 4." name: ROUNDS, their STEPS, FAULTS and draws, MARKS, FRACTIONS. */
 public final class TermsRoundsTest {
     private static final String ROUNDS = "==== 4.";
@@ -160,6 +163,9 @@ public final class TermsRoundsTest {
         step("when spit < 1 ;", " end;", 1);
         taken("when spit < 1; end;", 1);
         taken("when spit < 1; wipe; next; end;", 3);
+        played(STRAIGHT, "when spit < 1; wipe; next; end; wipe; next;", 0, 5);
+        played(STRAIGHT, "when spit > 0; wipe; next; end; wipe; next;", 0, 3);
+        played(STRAIGHT, "when spit > 0; when spit = 0; wipe; end; end; when spit = 0; when spit > 0; wipe; end; wipe; end; wipe;", 0, 5);
         fault("when spit < 1; wipe;", 2, 20);
         fault("when spit < 1; end", 2, 18);
         fault("when spit < 1; end end;", 2, 19);
@@ -187,6 +193,12 @@ public final class TermsRoundsTest {
         step("when score still < 1 ;", " end;", 1);
         step("when holes = 1 ;", " end;", 1);
         step("when spit > 1 ;", " end;", 1);
+        // behind these SHOTS the scores are 7, 3, 0, the SPIT is 1, there are 3 HOLES
+        String shots = "beat 3; shoot shaky; aim 2 0; shoot still; wipe; aim 9 9; shoot weak; ";
+        String[] hold = {"score shaky = 7", "score still = 3", "score weak = 0", "holes = 3", "spit = 1"};
+        for (String test : hold) {
+            told(played(STRAIGHT, shots + "when " + test + "; shoot weak; end;", 0, 9), 0, 4, 0, 10, 0);
+        }
         fault("when score < 1; end;", 2, 11);
         fault("when holes still < 1; end;", 2, 11);
         fault("when puff < 1; end;", 2, 5);
@@ -267,7 +279,8 @@ public final class TermsRoundsTest {
         }
         taken("loop 2;end;".repeat(15) + "wipe;".repeat(15), 30);
         fault("loop 2;end;".repeat(15) + "wipe;".repeat(16), 6, 15 * 11 + 15 * 5);
-        taken("loop 1;end;".repeat(27), 27);
+        taken("loop1;end;".repeat(30), 30);
+        played(STRAIGHT, "loop2;end;".repeat(30), 0, 30);
         taken("loop 2;" + "wipe;".repeat(29) + "end;", 30);
         fault(thirty + "end;", 2, 150);
         fault(thirty + "left", 2, 150);
@@ -297,9 +310,16 @@ public final class TermsRoundsTest {
         Check.yes(x, "all is so again", x.play(0), 7);
         hole(x, 2, 0, 0);
         Check.yes(x, "pea 0", x.hole(2, 3), 0);
-        PeaTube y = played(tent, "shoot s;", 0, 1);
+        PeaTube y = played(tent, "shoot s; wipe; beat 3;", 0, 3);
         // on BEAT 0 by 13: 1378 and 7157
         hole(y, 0, 1378 % 13 - 6, 7157 % 13 - 6);
+        Check.yes(y, "the beat is 0 again", y.play(0), 3);
+        hole(y, 1, 1378 % 13 - 6, 7157 % 13 - 6);
+        // PACE 24: TIME 40, DROP 25; with PUFF 19 it DROPS, with PUFF 21 PACE 25: TIME 39, DROP 23
+        PeaTube z = played("tube 12 bore 3; far 4; pea p size 3 weight 10; shooter s puff 40 shake 0;", "shoot s; wipe; puff 21; shoot s; wipe; puff 19; shoot s;", 0, 7);
+        told(z, 0, 2, 1, 0, 0);
+        hole(z, 0, 0, -25);
+        hole(z, 1, 0, -23);
     }
 
     @Sentence(in = ROUNDS, says = "aim (0 to 60 each)")
@@ -513,6 +533,58 @@ public final class TermsRoundsTest {
         Check.yes(x, "by whom", x.hole(0, 2), 1);
         Check.yes(x, "scores", x.shooter(1, 4), 7);
         Check.yes(x, "the round", x.play(0), 2);
+    }
+
+    @Sentence(in = ROUNDS, says = "the TENT, SPIT, HOLES, scores, the ROUND are kept as they are")
+    private static void allIsKeptAsItIs() {
+        String tent = "tube 47 bore 9; far 5; wind 3 left; ring 50 worth 2; ring 40 worth 3; pea p size 9 weight 2 crooked 1; pea q size 8 weight 3 wet;"
+            + "shooter a puff 39 shake 1 lean 3 4 low; shooter b puff 38 shake 2 lean 5 6;";
+        String other = "tube 12 bore 3; far 4; wind 9; ring 9 worth 20; pea p size 3 weight 1; pea q size 2 weight 8 crooked 4 wet;"
+            + "shooter a puff 9 shake 6 lean 1 1; shooter b puff 8 shake 5 lean 2 2 low;";
+        String round = "aim 1 2 left; shoot a; next; loop 2; when holes < 9; shoot b; end; end;";
+        List<Long> due = all(shot(tent, round));
+        PeaTube x = shot(tent, round);
+        x.mark();
+        for (int i = 0; i < 3; i++) {
+            Check.due("another tent is taken", Check.tent(x, other), 2);
+            Check.round(x, "aim 7 7 low; load q; when score b > 3; wipe; end; loop 9; shoot b; wipe; end; stop; wipe; wipe;");
+            x.play(9);
+            x.wipe();
+            Check.due("another hole in place of the first", x.shoot(1, 0, 8, 9, 9, 1, 1, 1) >= 0, true);
+            Check.due("it is one", x.many(8) > 0, true);
+            if (i < 2) {
+                x.mark();
+            }
+        }
+        x.back();
+        x.back();
+        Check.due("what is kept of the tent between", x.many(2), 4);
+        Check.yes(x, "back", x.back(), 0);
+        Check.due("all is as it was: " + due, all(x).equals(due), true);
+    }
+
+    private static PeaTube shot(String tent, String round) {
+        PeaTube x = withRound(tent, round);
+        x.shoot(0, 1, 39, 5, -6, 1, 2, 3);
+        x.shoot(1, 0, 38, -7, 8, -1, -3, 4);
+        return x;
+    }
+
+    private static List<Long> all(PeaTube x) {
+        List<Long> all = new ArrayList<>();
+        for (int again = 0; again < 2; again++) {
+            for (int what = 0; what < 9; what++) {
+                all.add((long) x.many(what));
+                for (int k = 0; k < 7; k++) {
+                    all.add((long) x.ring(k, what));
+                    all.add((long) x.pea(k, what));
+                    all.add((long) x.shooter(k, what));
+                    all.add((long) x.hole(k, what));
+                }
+            }
+            all.add((long) x.play(4321));
+        }
+        return all;
     }
 
     @Sentence(in = ROUNDS, says = "all is taken back to the latest MARK, which is gone then.")

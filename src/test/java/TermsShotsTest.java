@@ -110,6 +110,9 @@ public final class TermsShotsTest {
         flight(plain(25, ";"), 1, 0, 39);
         flight(plain(47, ";"), 1, 0, 21);
         flight(plain(48, ";"), 1, 0, 20);
+        // PACE 137 of which 7 are 959, PACE 160 of which 6 are 960
+        flight(Check.withTent("tube 48 bore 3; far 4; pea p size 3 weight 7;"), 20, 0, 8);
+        flight(Check.withTent("tube 48 bore 3; far 4; pea p size 3 weight 6;"), 20, 0, 6);
         flight(plain(48, ";"), 20, 0, 1);
         flight(plain(48, ";"), 19, 0, 2);
         flight(plain(48, ";"), 40, 0, 1);

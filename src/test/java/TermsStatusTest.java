@@ -435,9 +435,11 @@ public final class TermsStatusTest {
             x.bottom();
             Check.due("status behind top(), bottom()", x.status(), due);
         }
-        while (x.feed(0, 0, 0, 0, 0) != PeaTube.NONE) {
+        for (int i = 0; i < 42; i++) {
+            Check.due("feed", x.feed(0, 0, 0, 0, 0), 80 + 20 * i);
             Check.due("status", x.status(), 5);
         }
+        Check.due("feed of more than 900", x.feed(0, 0, 0, 0, 0), -1);
         Check.due("status behind a feed() that is NONE", x.status(), 5);
     }
 
