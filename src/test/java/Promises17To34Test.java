@@ -236,6 +236,12 @@ public final class Promises17To34Test {
         Check.no(x, "2 ahead of 5", x.bestPea(4, 99, 9), 2);
         Check.yes(x, "of two the first", x.bestPea(1, 40, 0), 0);
         Check.fraction(x, "of two the first", 7, 1);
+        PeaTube w = Check.withTent("tube 48 bore 3; far 4; ring 2 worth 3; ring 1 worth 7; pea fat size 4 weight 1; pea p size 3 weight 1;"
+            + "shooter right puff 40 shake 0 lean 2 0; shooter up puff 40 shake 0 lean 0 2;");
+        for (int shooter = 0; shooter < 2; shooter++) {
+            Check.yes(w, "0, 0 as aim", w.bestPea(shooter, 40, 0), 1);
+            Check.fraction(w, "0, 0 as aim: 2 aside", 3, 1);
+        }
         PeaTube y = Check.withTent("ring 60 worth 1; shooter s puff 40 shake 0;");
         Check.no(y, "no peas", y.bestPea(0, 40, 0), 8);
         Check.no(y, "5 ahead of 8", y.bestPea(0, 41, 0), 5);

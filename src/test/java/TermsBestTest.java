@@ -110,7 +110,8 @@ public final class TermsBestTest {
         String[] tents = {"wind 3; ring 25 worth 1; ring 9 worth 4; ring 4 worth 20; pea p size 3 weight 14 crooked 2; shooter s puff 40 shake 6 lean 2 1;",
             "wind 5; ring 9 worth 4; ring 4 worth 20; pea p size 3 weight 14; shooter s puff 40 shake 5;",
             "ring 60 worth 1; ring 20 worth 2; pea p size 3 weight 20 crooked 4; shooter s puff 40 shake 3;",
-            "ring 60 worth 1; ring 20 worth 2; pea p size 3 weight 14; shooter s puff 40 shake 3 lean 0 9;"};
+            "ring 60 worth 1; ring 20 worth 2; pea p size 3 weight 14; shooter s puff 40 shake 3 lean 0 9;",
+            "ring 2 worth 1; ring 1 worth 5; pea p size 3 weight 8 crooked 1; shooter s puff 40 shake 1;"};
         for (String tent : tents) {
             String whole = "tube 48 bore 3; far 20;" + tent;
             int bestX = 0;
@@ -216,6 +217,13 @@ public final class TermsBestTest {
         Check.yes(x, "none goes in: none to be wiped", x.wipeEvery(0, 2, 40, 1, 0), 1);
         Check.yes(x, "none goes in, at a cost", x.wipeEvery(0, 2, 40, 3, 1), 4);
         Check.yes(x, "wet ones stick from the fourth on", x.wipeEvery(0, 1, 40, 6, 1), 3);
+        // aimed at 0, 0 these two have 3 for sure: 6 brings 48 less 2 WIPES, 9 brings 45 less 1
+        PeaTube y = Check.withTent("tube 48 bore 3; far 4; ring 2 worth 3; ring 1 worth 7; pea p size 3 weight 1;"
+            + "shooter right puff 40 shake 0 lean 2 0; shooter up puff 40 shake 0 lean 0 2;");
+        for (int shooter = 0; shooter < 2; shooter++) {
+            Check.yes(y, "48 sixteenths", y.wipeEvery(shooter, 0, 40, 16, 48), 6);
+            Check.yes(y, "49 sixteenths", y.wipeEvery(shooter, 0, 40, 16, 49), 9);
+        }
     }
 
     @Sentence(in = BEST, says = "TURNS: two SHOOTERS (their hardest PUFF, aim 0, 0 by BEAT 2, SPIT 0, PEAS told) have n SHOTS each (1 to 5)")

@@ -539,7 +539,7 @@ public final class TermsRoundsTest {
     private static void allIsKeptAsItIs() {
         String tent = "tube 47 bore 9; far 5; wind 3 left; ring 50 worth 2; ring 40 worth 3; pea p size 9 weight 2 crooked 1; pea q size 8 weight 3 wet;"
             + "shooter a puff 39 shake 1 lean 3 4 low; shooter b puff 38 shake 2 lean 5 6;";
-        String other = "tube 12 bore 3; far 4; wind 9; ring 9 worth 20; pea p size 3 weight 1; pea q size 2 weight 8 crooked 4 wet;"
+        String other = "tube 12 bore 3; far 4; wind 9; ring 9 worth 20; pea p size 3 weight 1 wet; pea q size 2 weight 8 crooked 4;"
             + "shooter a puff 9 shake 6 lean 1 1; shooter b puff 8 shake 5 lean 2 2 low;";
         String round = "aim 1 2 left; shoot a; next; loop 2; when holes < 9; shoot b; end; end;";
         List<Long> due = all(shot(tent, round));

@@ -529,11 +529,23 @@ public final class TermsTextsTest {
         // more letters than 64 bits hold, the last ones as of a WORD
         Check.tentFault("aaaaaaaaaaaaaaaafar 4;", 2, 0);
         Check.tentFault("pea aaaaaaaaaaaaaaaaaaaaaab size 1 weight 1;", 2, 4);
+        // what is behind the text on the tape is no part of it, and no part of its last TOKEN
+        endsAt("far 4;", 3);
+        endsAt("farther 4;", 3);
+        endsAt("far 44;", 5);
+        endsAt("far 12;", 6);
+        endsAt("pea abcdefghi size", 12);
+        endsAt(" ".repeat(897) + "far", 900);
+        endsAt(" ".repeat(895) + "far 4", 900);
+    }
+
+    /** The first n bytes are all well, but there must be more. */
+    private static void endsAt(String tape, int n) {
         PeaTube x = new PeaTube();
-        Check.feed(x, "far 4;");
-        Check.no(x, "tent(3): what is behind is no part of it", x.tent(3), 10);
+        Check.feed(x, tape);
+        Check.no(x, "tent(" + n + ") of " + tape.trim(), x.tent(n), 10);
         Check.due("fault(0)", x.fault(0), 2);
-        Check.due("fault(1)", x.fault(1), 3);
+        Check.due("fault(1)", x.fault(1), n);
     }
 
     @Sentence(in = "Terms", says = "3 a NAME that is taken.")
