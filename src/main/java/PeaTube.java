@@ -2067,7 +2067,7 @@ public final class PeaTube {
         /** At the end of a loop that is to be done again its first STEP comes next. */
         private int behindEnd(Round round, int at) {
             int begin = round.mate[at];
-            if (round.op[begin] == LOOP) {
+            if (within(begin, 0, at - 1) && round.op[begin] == LOOP) {
                 toDo[begin]--;
                 if (toDo[begin] > 0) {
                     return begin + 1;
@@ -2078,12 +2078,12 @@ public final class PeaTube {
 
         private static boolean holds(Round round, int at, Tally tally) {
             int tested = round.first[at];
-            int value;
+            int value = 0;
             if (tested == Round.TEST_HOLES) {
                 value = tally.holes;
             } else if (tested == Round.TEST_SPIT) {
                 value = tally.spit;
-            } else {
+            } else if (within(tested, 0, MOST_SHOOTERS - 1)) {
                 value = tally.scores[tested];
             }
             switch (round.second[at]) {
@@ -2138,7 +2138,8 @@ public final class PeaTube {
         }
 
         private void shootOnce(int shooter, Tent tent, Tally tally) {
-            if (shot.pea >= tent.peas || tent.fitOf(shot.pea) < 0 || tally.holes >= MOST_HOLES) {
+            boolean both = within(shooter, 0, tent.shooters - 1) && within(shot.pea, 0, tent.peas - 1);
+            if (!both || tent.fitOf(shot.pea) < 0 || tally.holes >= MOST_HOLES) {
                 missed++;
                 return;
             }
